@@ -18,7 +18,7 @@ public final class ModelTest {
             int calls = 0;
             while (calls < 480) {
                 String text = r.nextInt(3) == 0 ? Texts.spoilt(r) : Texts.some(r);
-                calls += tell(due, "run " + run, x, y, text);
+                calls += due.tellBoth("run " + run, x, y, text);
                 if (r.nextInt(3) == 0) {
                     pictures(r, x, y);
                     calls += 12;
@@ -55,28 +55,12 @@ public final class ModelTest {
             LongBoats x = new LongBoats();
             Model y = new Model();
             String text = Texts.spoilt(r);
-            tell(due, "text " + i, x, y, text);
+            due.tellBoth("text " + i, x, y, text);
             seen[x.fault(0)]++;
             due.due("text " + i + " fault(0) of " + text, x.fault(0), y.fault(0));
             due.due("text " + i + " fault(1) of " + text, x.fault(1), y.fault(1));
         }
         System.out.println("ModelTest: texts by fault " + Arrays.toString(seen));
-    }
-
-    private static int tell(Due due, String run, LongBoats x, Model y, String text) {
-        x.end(0);
-        y.end(0);
-        int calls = 3;
-        for (int at = 0; at < text.length(); at += 20, calls++) {
-            int[] w = new int[5];
-            for (int p = at; p < at + 20; p++) {
-                w[(p - at) / 4] = w[(p - at) / 4] << 8 | (p < text.length() ? text.charAt(p) & 255 : 32);
-            }
-            due.due(run + " feed", x.feed(w[0], w[1], w[2], w[3], w[4]), y.feed(w[0], w[1], w[2], w[3], w[4]));
-        }
-        due.due(run + " end", x.end(text.length()), y.end(text.length()));
-        due.due(run + " harbour() of " + text, x.harbour(), y.harbour());
-        return calls;
     }
 
     /** A row of pictures, mostly such as a gap makes. */

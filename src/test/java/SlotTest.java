@@ -89,11 +89,10 @@ public final class SlotTest {
         DUE.due("pasted", x.gaps(1), 28);
         DUE.due("its own stays", x.gaps(0), 28);
         // Over itself, upwards and downwards: what is put is what was there.
-        lay(x, 2, 0, 0, 1, 2, 0, 0, 0);
+        lay(x, 2, 0, 1, 0, 2, 0, 0, 0);
         DUE.due("paste upwards", x.paste(2, 0, 2, 2, 3), 0);
-        // 0 1 | 0 1 2 | 0: pictures (0, 1, 0) and (1, 2, 0).
-        DUE.due("read ahead", x.gaps(2), 0b11);
-        DUE.due("at the gap told both are not so", x.odd(2), 0);
+        // 1 0 1 | 0 2 0: WIDE the one who leans 4 falls, of the others nobody does.
+        DUE.due("read ahead", x.gaps(2), (1 << 21) - 32);
         lay(x, 2, 0, 2, 2, 1, 0, 1, 0, 1, 3, 0);
         DUE.due("paste downwards", x.paste(2, 2, 2, 0, 3), 0);
         // 1 0 1 | 0 1 0 | 1 3 0

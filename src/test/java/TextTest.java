@@ -115,6 +115,15 @@ public final class TextTest {
         fault("7", 1, 0);
         fault(" \nboat oars 2 slip 0;", 1, 2);
         fault("harbours stream 1 gap 3 passes 3;", 1, 0);
+        fault("harbourz stream 1 gap 3 passes 3;", 1, 0);
+        fault("aharbour stream 1 gap 3 passes 3;", 1, 0);
+        fault("harbour`stream 1 gap 3 passes 3;", 1, 7);
+        fault("harbour{stream 1 gap 3 passes 3;", 1, 7);
+        fault("harbour stream 1/gap 3 passes 3;", 1, 16);
+        fault("harbour stream 1:gap 3 passes 3;", 1, 16);
+        fault("harbour stream 1\rgap 3 passes 3;", 1, 16);
+        fault("harbour stream 1\u00ffgap 3 passes 3;", 1, 16);
+        fault("harbour stream 1\u0000gap 3 passes 3;", 1, 16);
         fault("harbour stream 1;", 1, 16);
         fault("harbour stream 10 gap 3 passes 3;", 2, 15);
         fault("harbour stream 4294967297 gap 3 passes 3;", 2, 15);

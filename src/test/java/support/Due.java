@@ -64,4 +64,21 @@ final class Due {
         }
         return x;
     }
+
+    /** Tells a text to both: how many calls that took. */
+    int tellBoth(String run, LongBoats x, Model y, String text) {
+        x.end(0);
+        y.end(0);
+        int calls = 3;
+        for (int at = 0; at < text.length(); at += 20, calls++) {
+            int[] w = new int[5];
+            for (int p = at; p < at + 20; p++) {
+                w[(p - at) / 4] = w[(p - at) / 4] << 8 | (p < text.length() ? text.charAt(p) & 255 : 32);
+            }
+            due(run + " feed", x.feed(w[0], w[1], w[2], w[3], w[4]), y.feed(w[0], w[1], w[2], w[3], w[4]));
+        }
+        due(run + " end", x.end(text.length()), y.end(text.length()));
+        due(run + " harbour() of " + text, x.harbour(), y.harbour());
+        return calls;
+    }
 }

@@ -35,6 +35,18 @@ final class Texts {
         return s.toString();
     }
 
+    /** Five against five. */
+    static String fives(int seed) {
+        Random r = new Random(seed);
+        StringBuilder s = new StringBuilder("harbour stream 0 gap 3 passes 3;boat oars 2 slip 0;boat oars 2 slip 0;");
+        for (int i = 0; i < 10; i++) {
+            s.append("man weight " + (40 + r.nextInt(161)) + " skill " + r.nextInt(31) + " quick " + r.nextInt(31)
+                    + " tires " + r.nextInt(10) + " leans " + r.nextInt(5)
+                    + " aims " + (r.nextBoolean() ? "middle" : "corner") + ";");
+        }
+        return s + "team 0 0 1 2 3 4;team 1 5 6 7 8 9;";
+    }
+
     private static void teams(Random r, StringBuilder s, int boats, int men) {
         int[] all = new int[men];
         for (int i = 0; i < men; i++) {
