@@ -25,6 +25,32 @@ final class Harbours {
             + "man weight 170 skill 0 quick 0 tires 0 leans 2 aims middle;"
             + "team 0 0 1;team 1 2 3 4 5;team 1 5 1;team 0 1;";
 
+    /** As much as a text may tell: 4 BOATS, 10 MEN, 4 TEAMS, none of whom has a MAN of another one. */
+    static final String FULL = head(3, 3, 3) + boat(6, 1) + boat(5, 2) + boat(4, 0) + boat(7, 4)
+            + man(80, 10, 6, 2, 2, "middle") + man(95, 8, 9, 1, 4, "corner") + man(120, 12, 3, 3, 1, "edge")
+            + man(70, 9, 4, 0, 0, "middle") + man(60, 20, 8, 9, 3, "corner") + man(140, 1, 2, 2, 2, "middle")
+            + man(40, 0, 0, 0, 2, "middle") + man(200, 30, 30, 9, 2, "corner") + man(99, 15, 12, 4, 4, "middle")
+            + man(101, 16, 11, 5, 1, "corner")
+            + "team 0 0 1;team 1 2 3 4 5 6;team 2 7 8;team 3 9;errs 10;";
+
     private Harbours() {
+    }
+
+    static String head(int stream, int gap, int passes) {
+        return "harbour stream " + stream + " gap " + gap + " passes " + passes + ";";
+    }
+
+    static String boat(int oars, int slip) {
+        return "boat oars " + oars + " slip " + slip + ";";
+    }
+
+    static String man(int weight, int skill, int quick, int tires, int leans, String aims) {
+        return "man weight " + weight + " skill " + skill + " quick " + quick + " tires " + tires
+                + " leans " + leans + " aims " + aims + ";";
+    }
+
+    /** Two BOATS of SPEED 0 that do not slip, and MEN: FORCE and how one STANDS are theirs alone. */
+    static String still(int gap, int passes, String... men) {
+        return head(4, gap, passes) + boat(2, 0) + boat(2, 0) + String.join("", men);
     }
 }
