@@ -164,6 +164,15 @@ public final class DrawBoundsTest {
             DUE.due("56 out in the first pass", b.drawn(5, 0, 1, 0, 1, 0) * 10 + b.drawn(5, 0, 1, 0, 1, 1), 20);
             DUE.due("57 out each time", b.years(5, 20, 0, 1, 0, 1, 2), 20);
         }
+        // 11 against 11 and 10 against 10 do not do in the first pass, whoever tires.
+        LongBoats even = Due.told(two(3, 1, 0, 0) + Harbours.man(100, 0, 5, 9, 2, "middle")
+                + Harbours.man(110, 0, 4, 9, 2, "middle"));
+        DUE.due("56 as much", even.drawn(5, 0, 1, 0, 1, 0), 0);
+        DUE.due("57 as much", even.years(5, 20, 0, 1, 0, 1, 0), 20);
+        even.train(0, 2, 6);
+        DUE.due("57 one more", even.years(5, 20, 0, 1, 0, 1, 2), 20);
+        even.train(1, 2, 5);
+        DUE.due("57 one more of both", even.years(5, 20, 0, 1, 0, 1, 3), 20);
         // 6 against 11 less a pass: out in the seventh.
         LongBoats b = Due.told(two(3, 7, 0, 0) + Harbours.man(200, 30, 0, 0, 2, "middle")
                 + Harbours.man(110, 0, 0, 2, 2, "middle"));

@@ -109,13 +109,6 @@ public final class JudgeBoundsTest {
         DUE.due("43 no one errs", aiming(1, 9, 0).needed(4), 4);
     }
 
-    private static void lay(LongBoats x, int slot, int width, int... numbers) {
-        x.row(slot, width, numbers.length);
-        for (int i = 0; i < numbers.length; i++) {
-            x.write(slot, i, numbers[i]);
-        }
-    }
-
     private static int bits(int from, int to) {
         int bits = 0;
         for (int gap = from; gap <= to; gap++) {
@@ -130,19 +123,19 @@ public final class JudgeBoundsTest {
             for (int to = from; to <= 12; to++) {
                 LongBoats x = Due.told(Harbours.still(3, 1, FOUL, LEANING) + "reach " + from + " to " + to + ";");
                 String of = " of reach " + from + " to " + to;
-                lay(x, 0, 0, 0, 1, 0);
+                Due.lay(x, 0, 0, 0, 1, 0);
                 DUE.due("44 crashes" + of, x.gaps(0), bits(0, from - 1));
                 himself(x, from == 0 ? -1 : 0, from == 0 ? -1 : 0, from == 0 ? -1 : 0);
-                lay(x, 0, 0, 0, 1, 1);
+                Due.lay(x, 0, 0, 0, 1, 1);
                 DUE.due("44 touches" + of, x.gaps(0), bits(from, to));
                 himself(x, 0, 1, 0);
-                lay(x, 0, 0, 0, 1, 2);
+                Due.lay(x, 0, 0, 0, 1, 2);
                 DUE.due("44 wide" + of, x.gaps(0), bits(to + 1, 20));
                 himself(x, 0, 0, 0);
-                lay(x, 0, 0, 1, 0, 1);
+                Due.lay(x, 0, 0, 1, 0, 1);
                 DUE.due("44 wide, he himself" + of, x.gaps(0), bits(to + 1, 20));
                 himself(x, 1, 0, 0);
-                lay(x, 0, 0, 0, 1, 3);
+                Due.lay(x, 0, 0, 0, 1, 3);
                 DUE.due("44 no gap" + of, x.gaps(0), 0);
                 DUE.due("45 NONE" + of, x.himself(0, 0), -1);
             }
@@ -169,11 +162,11 @@ public final class JudgeBoundsTest {
     private static void rowsOfThree() {
         for (int n = 1; n <= 60; n++) {
             LongBoats x = Due.told(Harbours.still(3, 1, FOUL, LEANING));
-            int[] row = new int[n];
+            long[] row = new long[n];
             for (int i = 0; i < n; i++) {
                 row[i] = i % 3 == 0 ? 0 : 1;
             }
-            lay(x, 2, n % 4, row);
+            Due.lay(x, 2, n % 4, row);
             boolean whole = n % 3 == 0;
             DUE.due("44 a row of " + n, x.gaps(2), whole ? 28 : -2);
             DUE.due("45 a row of " + n, x.himself(2, 1), whole ? n / 3 : -2);
@@ -183,18 +176,18 @@ public final class JudgeBoundsTest {
 
     /** Promise 44: -2: a number is not so, one MAN twice; be it in the first picture or the last. */
     private static void numbersNotSo() {
-        int[][] wrong = {{-1, 1, 1}, {2, 1, 1}, {0, -1, 1}, {0, 2, 1}, {0, 1, -1}, {0, 1, 4}, {0, 0, 1}, {1, 1, 1},
+        long[][] wrong = {{-1, 1, 1}, {2, 1, 1}, {0, -1, 1}, {0, 2, 1}, {0, 1, -1}, {0, 1, 4}, {0, 0, 1}, {1, 1, 1},
             {127, 1, 1}, {-128, 1, 1}, {0, 127, 1}, {0, 1, 127}, {0, 1, -128}, {2, 2, 0}, {0, 0, 4}};
-        for (int[] w : wrong) {
+        for (long[] w : wrong) {
             for (int at = 0; at <= 57; at += 57) {
                 LongBoats x = Due.told(Harbours.still(3, 1, FOUL, LEANING));
-                int[] row = new int[60];
+                long[] row = new long[60];
                 for (int i = 0; i < 60; i++) {
                     row[i] = i % 3 == 0 ? 0 : 1;
                 }
                 System.arraycopy(w, 0, row, at, 3);
                 for (int width = 0; width <= 3; width++) {
-                    lay(x, 1, width, row);
+                    Due.lay(x, 1, width, row);
                     String of = " " + java.util.Arrays.toString(w) + " at " + at + ", width " + width;
                     DUE.due("44" + of, x.gaps(1), -2);
                     DUE.due("45" + of, x.himself(1, 1), -2);
@@ -206,7 +199,7 @@ public final class JudgeBoundsTest {
         for (long v : far) {
             for (int i = 0; i < 3; i++) {
                 LongBoats x = Due.told(Harbours.still(3, 1, FOUL, LEANING));
-                lay(x, 1, 3, 0, 1, 1);
+                Due.lay(x, 1, 3, 0, 1, 1);
                 x.write(1, i, v);
                 DUE.due("44 eight bytes, " + v + " at " + i, x.gaps(1), -2);
             }
@@ -217,13 +210,13 @@ public final class JudgeBoundsTest {
     private static void menAsTold() {
         for (int men = 2; men <= 10; men++) {
             LongBoats x = Due.told(Harbours.still(3, 1) + FOUL.repeat(men));
-            lay(x, 3, 1, men - 1, 0, 3);
+            Due.lay(x, 3, 1, men - 1, 0, 3);
             DUE.due("44 the last MAN of " + men, x.gaps(3), 28);
-            lay(x, 3, 1, 0, men - 1, 3);
+            Due.lay(x, 3, 1, 0, men - 1, 3);
             DUE.due("44 against the last MAN of " + men, x.gaps(3), 28);
-            lay(x, 3, 1, men, 0, 3);
+            Due.lay(x, 3, 1, men, 0, 3);
             DUE.due("44 one more than " + men, x.gaps(3), -2);
-            lay(x, 3, 1, 0, men, 3);
+            Due.lay(x, 3, 1, 0, men, 3);
             DUE.due("44 against one more than " + men, x.gaps(3), -2);
         }
     }
@@ -232,7 +225,7 @@ public final class JudgeBoundsTest {
     private static void boatsTwo() {
         for (int boats = 0; boats <= 4; boats++) {
             LongBoats x = Due.told(Harbours.head(4, 3, 1) + Harbours.boat(2, 0).repeat(boats) + FOUL + LEANING);
-            lay(x, 0, 0, 0, 1, 1);
+            Due.lay(x, 0, 0, 0, 1, 1);
             boolean two = boats >= 2;
             DUE.due("44 BOATS " + boats, x.gaps(0), two ? 28 : -2);
             DUE.due("45 BOATS " + boats, x.himself(0, 1), two ? 1 : -2);
@@ -245,7 +238,7 @@ public final class JudgeBoundsTest {
         String even = Harbours.man(200, 0, 0, 0, 2, "middle");
         LongBoats x = Due.told(Harbours.head(0, 3, 1) + Harbours.boat(5, 0) + Harbours.boat(5, 0)
                 + Harbours.boat(4, 0) + Harbours.boat(2, 0) + even + even);
-        lay(x, 0, 0, 0, 1, 3);
+        Due.lay(x, 0, 0, 0, 1, 3);
         DUE.due("44 BOATS 0 and 1", x.gaps(0), 28);
         x.mend(1, 0, 4);
         DUE.due("44 BOAT 1 slower", x.gaps(0), 0);
@@ -268,11 +261,11 @@ public final class JudgeBoundsTest {
             DUE.due("45 SLOT " + slot, x.himself(slot, 0), -2);
             DUE.due("46 SLOT " + slot, x.odd(slot), -2);
         }
-        lay(x, 0, 0, 0, 1, 1);
+        Due.lay(x, 0, 0, 0, 1, 1);
         for (int what : new int[] {-1, 3, Integer.MIN_VALUE, Integer.MAX_VALUE}) {
             DUE.due("45 what " + what, x.himself(0, what), -2);
         }
-        lay(x, 0, 0, 0, 1, 3);
+        Due.lay(x, 0, 0, 0, 1, 3);
         DUE.due("45 no gaps, no such what", x.himself(0, 3), -2);
     }
 
@@ -281,20 +274,20 @@ public final class JudgeBoundsTest {
         // MAN 0 leans 4 and aims at the edge: out at a TOUCH by a foul, WIDE by himself; MAN 1 is out at a TOUCH as
         // MAN 2 is, by a thrust.
         LongBoats x = Due.told(Harbours.still(3, 1, Harbours.man(40, 0, 0, 0, 4, "edge"), WEAK, WEAK));
-        lay(x, 0, 0, 0, 1, 1);
+        Due.lay(x, 0, 0, 0, 1, 1);
         himself(x, 0, 0, 0);
-        lay(x, 0, 0, 0, 1, 1, 1, 2, 3);
+        Due.lay(x, 0, 0, 0, 1, 1, 1, 2, 3);
         himself(x, 0, 1, 1);
-        lay(x, 0, 0, 0, 1, 1, 1, 2, 0);
+        Due.lay(x, 0, 0, 0, 1, 1, 1, 2, 0);
         himself(x, 1, 0, 0);
-        lay(x, 0, 0, 1, 2, 3, 2, 1, 3);
+        Due.lay(x, 0, 0, 1, 2, 3, 2, 1, 3);
         himself(x, 0, 0, 2);
         // What becomes of the second one is not asked.
-        lay(x, 0, 0, 1, 0, 2, 1, 2, 0);
+        Due.lay(x, 0, 0, 1, 0, 2, 1, 2, 0);
         himself(x, 0, 0, 0);
-        lay(x, 0, 0, 1, 2, 3, 1, 2, 0);
+        Due.lay(x, 0, 0, 1, 2, 3, 1, 2, 0);
         himself(x, -1, -1, -1);
-        lay(x, 0, 0, 1, 2, 0);
+        Due.lay(x, 0, 0, 1, 2, 0);
         himself(x, 0, 0, 0);
     }
 
@@ -309,11 +302,11 @@ public final class JudgeBoundsTest {
         for (int tires = 2; tires <= 9; tires += 7) {
             LongBoats x = Due.told(Harbours.still(3, 1, Harbours.man(100, 0, 6, tires, 2, "middle"),
                     Harbours.man(110, 0, 4, 11 - tires, 2, "middle")));
-            lay(x, 0, 0, 0, 1, 2);
+            Due.lay(x, 0, 0, 0, 1, 2);
             DUE.due("44 he is fresh", x.gaps(0), 28);
             himself(x, 0, 0, 0);
             DUE.due("46 he is fresh", x.odd(0), -1);
-            lay(x, 0, 0, 1, 0, 1);
+            Due.lay(x, 0, 0, 1, 0, 1);
             DUE.due("44 the other one is", x.gaps(0), 28);
             himself(x, 0, 0, 1);
             DUE.due("46 the other one is", x.odd(0), -1);
@@ -324,15 +317,15 @@ public final class JudgeBoundsTest {
     private static void oddFirst() {
         for (int odd = 0; odd <= 20; odd++) {
             LongBoats x = Due.told(Harbours.still(3, 1, FOUL, LEANING));
-            int[] row = new int[60];
+            long[] row = new long[60];
             for (int i = 0; i < 60; i++) {
                 row[i] = i % 3 == 0 ? 0 : i % 3 == 1 || i / 3 < odd ? 1 : 0;
             }
-            lay(x, 0, 0, row);
+            Due.lay(x, 0, 0, row);
             DUE.due("46 the first from " + odd, x.odd(0), odd == 20 ? -1 : odd);
         }
         LongBoats x = Due.told(Harbours.still(3, 1, FOUL, LEANING));
-        lay(x, 0, 0, 0, 1, 1);
+        Due.lay(x, 0, 0, 0, 1, 1);
         int[] at = {0, 0, -1, -1, -1, 0, 0, 0, 0, 0, 0, 0, 0};
         for (int gap = 0; gap <= 12; gap++) {
             x.rule(0, gap);

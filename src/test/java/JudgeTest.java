@@ -65,16 +65,9 @@ public final class JudgeTest {
         DUE.due("needed, no MEN", x.needed(1), -2);
     }
 
-    private static void lay(LongBoats x, int slot, int width, long... numbers) {
-        x.row(slot, width, numbers.length);
-        for (int i = 0; i < numbers.length; i++) {
-            x.write(slot, i, numbers[i]);
-        }
-    }
-
     private static void pictures(LongBoats x, long[] row, int gaps, int[] himself, int odd) {
         for (int width = 0; width < 4; width++) {
-            lay(x, width, width, row);
+            Due.lay(x, width, width, row);
             String of = " of " + java.util.Arrays.toString(row) + " width " + width;
             DUE.due("gaps" + of, x.gaps(width), gaps);
             for (int what = 0; what < 3; what++) {
@@ -102,13 +95,13 @@ public final class JudgeTest {
         pictures(x, new long[] {2, 0, 1}, TOUCHES + WIDES, new int[] {0, 0, 0}, -1);
         pictures(x, new long[] {2, 0, 1, 1, 0, 1}, WIDES, new int[] {2, 0, 0}, 1);
         // Cut to a byte, 258 is 2; of eight bytes it is none.
-        lay(x, 0, 0, 258, 0, 1);
+        Due.lay(x, 0, 0, 258, 0, 1);
         DUE.due("cut to a byte", x.gaps(0), TOUCHES + WIDES);
-        lay(x, 0, 3, 258, 0, 1);
+        Due.lay(x, 0, 3, 258, 0, 1);
         DUE.due("not cut", x.gaps(0), -2);
-        lay(x, 0, 2, (1L << 32) + 2, 0, 1);
+        Due.lay(x, 0, 2, (1L << 32) + 2, 0, 1);
         DUE.due("cut to four bytes", x.gaps(0), TOUCHES + WIDES);
-        lay(x, 0, 3, (1L << 32) + 2, 0, 1);
+        Due.lay(x, 0, 3, (1L << 32) + 2, 0, 1);
         DUE.due("eight bytes", x.gaps(0), -2);
     }
 
@@ -121,11 +114,11 @@ public final class JudgeTest {
         long[][] rows = {{0, 1}, {0, 1, 3, 0}, {3, 1, 0}, {0, 3, 0}, {-1, 1, 0}, {0, -1, 0}, {0, 1, 4}, {0, 1, -1},
             {1, 1, 0}, {0, 1, 3, 2, 2, 0}};
         for (long[] row : rows) {
-            lay(x, 0, 3, row);
+            Due.lay(x, 0, 3, row);
             DUE.due("wrong " + java.util.Arrays.toString(row),
                     x.gaps(0) * 100 + x.himself(0, 0) * 10 + x.odd(0), -222);
         }
-        lay(x, 0, 3, 0, 1, 3);
+        Due.lay(x, 0, 3, 0, 1, 3);
         DUE.due("himself what 3", x.himself(0, 3), -2);
         DUE.due("himself what -1", x.himself(0, -1), -2);
         Due.tell(x, "harbour stream 0 gap 0 passes 1;boat oars 2 slip 0;");

@@ -150,6 +150,14 @@ public final class MenBoundsTest {
         LongBoats z = Due.told(Harbours.still(3, 3, Harbours.man(50, 0, 0, 9, 2, "middle"), WEAK,
                 Harbours.man(40, 0, 0, 0, 2, "corner")));
         DUE.due("53 he is fresh", z.feared(0, 0, 1), 2);
+        // FORCE 7 is more than 6, whoever tires more.
+        LongBoats u = Due.told(Harbours.still(3, 3, WEAK, Harbours.man(40, 0, 1, 0, 2, "middle"),
+                Harbours.man(40, 0, 0, 9, 2, "middle")));
+        DUE.due("53 no fresher than fresh", u.feared(0, 0, 1), 1);
+        // 6 against 2 is as much as 4 against 0, to which he is cut by the corner.
+        LongBoats v = Due.told(Harbours.still(3, 3, Harbours.man(40, 0, 0, 9, 3, "middle"), WEAK,
+                Harbours.man(40, 0, 0, 0, 2, "corner")));
+        DUE.due("53 he is no fresher", v.feared(0, 0, 1), 1);
     }
 
     /** Promise 51: NONE: none. Of three whose FORCE goes round none can be, for each must be weaker than himself. */

@@ -268,6 +268,10 @@ public final class SlipsBoundsTest {
                         + Harbours.man(200, 30, 0, 0, 2, "middle")
                         + Harbours.man(100, s[0] - 10, 0, 0, 2, "middle"));
                 DUE.due("21 stands " + s[0] + ", oars told " + told, x.oars(0, 1, 0, 1), s[1]);
+                x.train(0, 0, 40);
+                x.train(0, 1, 0);
+                x.train(1, 2, 30);
+                DUE.due("21 out himself, stands " + s[0] + ", oars told " + told, x.oars(0, 1, 0, 1), s[1]);
                 DUE.due("21 the oars stay", x.boat(0, 0), told);
                 DUE.due("21 the other oars stay", x.boat(1, 0), 2);
             }

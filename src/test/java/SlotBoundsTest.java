@@ -28,13 +28,6 @@ public final class SlotBoundsTest {
         return Due.told(TEXT);
     }
 
-    private static void lay(LongBoats x, int slot, int width, int... numbers) {
-        x.row(slot, width, numbers.length);
-        for (int i = 0; i < numbers.length; i++) {
-            x.write(slot, i, numbers[i]);
-        }
-    }
-
     /** How many numbers a SLOT's row has, by which places can be written. */
     private static void size(String of, LongBoats x, int slot, int n) {
         DUE.due(of + ", the last place of " + n, x.write(slot, n - 1, 1), n == 0 ? -7 : 0);
@@ -59,7 +52,7 @@ public final class SlotBoundsTest {
     /** Promise 62: -2: no such SLOT or WIDTH, or n is above 60; -3, and the SLOT stays: n is below 0. */
     private static void rowsRefused() {
         LongBoats x = told();
-        lay(x, 0, 0, 0, 1, 1);
+        Due.lay(x, 0, 0, 0, 1, 1);
         for (int n : new int[] {61, 62, Integer.MAX_VALUE}) {
             DUE.due("62 n " + n, x.row(0, 1, n), -2);
             DUE.due("62 n " + n + " of nothing", x.row(1, 1, n), -2);
@@ -90,9 +83,9 @@ public final class SlotBoundsTest {
     private static void rowsInPlace() {
         for (int width = 0; width <= 3; width++) {
             LongBoats x = told();
-            int[] ones = new int[60];
+            long[] ones = new long[60];
             java.util.Arrays.fill(ones, 1);
-            lay(x, 2, 3 - width, ones);
+            Due.lay(x, 2, 3 - width, ones);
             for (int n = 60; n >= 3; n -= 3) {
                 x.row(2, width, n);
                 DUE.due("62 all 0: one MAN twice", x.gaps(2), -2);
@@ -104,7 +97,7 @@ public final class SlotBoundsTest {
         }
         // A shorter one and a longer one again: nothing of the first is left.
         LongBoats x = told();
-        lay(x, 0, 0, 0, 1, 1, 0, 1, 1);
+        Due.lay(x, 0, 0, 0, 1, 1, 0, 1, 1);
         x.row(0, 0, 0);
         x.row(0, 0, 6);
         x.write(0, 1, 1);
@@ -116,11 +109,11 @@ public final class SlotBoundsTest {
     private static void writesBounded() {
         for (int slot = 0; slot <= 3; slot++) {
             LongBoats x = told();
-            int[] row = new int[60];
+            long[] row = new long[60];
             for (int i = 0; i < 60; i++) {
                 row[i] = i % 3 == 0 ? 0 : 1;
             }
-            lay(x, slot, 1, row);
+            Due.lay(x, slot, 1, row);
             DUE.due("63 as laid", x.gaps(slot), TOUCH);
             DUE.due("63 the last", x.write(slot, 59, 2), 0);
             DUE.due("63 the last is so", x.odd(slot), 19);
@@ -160,7 +153,7 @@ public final class SlotBoundsTest {
             long[] so = {round, -round, 2 * round, 7 * round, Long.MIN_VALUE, 1L << 62, -1 - (round - 1), 0};
             for (long v : so) {
                 LongBoats x = told();
-                lay(x, 1, width, 0, 1, 1);
+                Due.lay(x, 1, width, 0, 1, 1);
                 DUE.due("63 write", x.write(1, 2, v + 1), 0);
                 DUE.due("63 WIDTH " + width + ", " + v + " and 1", x.gaps(1), TOUCH);
                 x.write(1, 2, v + 2);
@@ -176,7 +169,7 @@ public final class SlotBoundsTest {
         for (int width = 0; width <= 3; width++) {
             for (int bit = 0; bit < 64; bit++) {
                 LongBoats x = told();
-                lay(x, 1, width, 0, 1, 0);
+                Due.lay(x, 1, width, 0, 1, 0);
                 x.write(1, 2, (1L << bit) + 1);
                 boolean cut = width < 3 && bit >= bits[Math.min(width, 2)];
                 // Bits 0 and 1 make 2 and 3, which are RESULTS.
@@ -202,11 +195,11 @@ public final class SlotBoundsTest {
             }
         }
         LongBoats x = told();
-        int[] row = new int[60];
+        long[] row = new long[60];
         for (int i = 0; i < 60; i++) {
             row[i] = i % 3 == 0 ? 0 : 1;
         }
-        lay(x, 0, 2, row);
+        Due.lay(x, 0, 2, row);
         x.row(1, 2, 60);
         DUE.due("64 all sixty", x.paste(0, 0, 1, 0, 60), 0);
         DUE.due("64 all are there", x.gaps(1), TOUCH);
@@ -223,7 +216,7 @@ public final class SlotBoundsTest {
     /** Promise 64: no number at all, up to the end of both rows. */
     private static void pastesOfNone() {
         LongBoats x = told();
-        lay(x, 0, 0, 0, 1, 1);
+        Due.lay(x, 0, 0, 0, 1, 1);
         x.row(1, 0, 0);
         DUE.due("64 none of none", x.paste(1, 0, 1, 0, 0), 0);
         DUE.due("64 none to none", x.paste(0, 3, 1, 0, 0), 0);
@@ -238,9 +231,9 @@ public final class SlotBoundsTest {
     /** Promise 64: -2, -6, -8, -7, in that order; and nothing happens. */
     private static void pastesRefused() {
         LongBoats x = told();
-        lay(x, 0, 1, 0, 1, 1);
-        lay(x, 1, 1, 0, 1, 2);
-        lay(x, 2, 2, 0, 1, 2);
+        Due.lay(x, 0, 1, 0, 1, 1);
+        Due.lay(x, 1, 1, 0, 1, 2);
+        Due.lay(x, 2, 2, 0, 1, 2);
         int[] beyond = {-1, 4, Integer.MIN_VALUE, Integer.MAX_VALUE};
         for (int slot : beyond) {
             DUE.due("64 SLOT " + slot, x.paste(slot, 0, 0, 0, 1), -2);
@@ -279,8 +272,8 @@ public final class SlotBoundsTest {
         for (int width = 0; width <= 3; width++) {
             for (int other = 0; other <= 3; other++) {
                 LongBoats x = told();
-                lay(x, 0, width, 0, 1, 1);
-                lay(x, 1, other, 0, 1, 2);
+                Due.lay(x, 0, width, 0, 1, 1);
+                Due.lay(x, 1, other, 0, 1, 2);
                 DUE.due("64 WIDTH " + width + " to " + other, x.paste(0, 0, 1, 0, 3), width == other ? 0 : -8);
                 DUE.due("64 so that", x.gaps(1), width == other ? TOUCH : WIDE);
             }
@@ -292,10 +285,10 @@ public final class SlotBoundsTest {
         for (int from = 0; from <= 9; from++) {
             for (int to = 0; to <= 9; to++) {
                 for (int n = 0; n <= 9 - Math.max(from, to); n++) {
-                    int[] row = {0, 1, 2, 1, 0, 1, 0, 1, 0};
+                    long[] row = {0, 1, 2, 1, 0, 1, 0, 1, 0};
                     LongBoats x = told();
-                    lay(x, 0, 0, row);
-                    int[] due = row.clone();
+                    Due.lay(x, 0, 0, row);
+                    long[] due = row.clone();
                     for (int i = 0; i < n; i++) {
                         due[to + i] = row[from + i];
                     }
@@ -307,12 +300,12 @@ public final class SlotBoundsTest {
     }
 
     /** Each number by itself, copied into a picture of a SLOT of its own where 0, 1 and 2 are told apart. */
-    private static void same(String of, LongBoats x, int[] due) {
+    private static void same(String of, LongBoats x, long[] due) {
         int[] gaps = {CRASH, TOUCH, WIDE};
-        lay(x, 1, 0, 0, 1, 0);
+        Due.lay(x, 1, 0, 0, 1, 0);
         for (int i = 0; i < due.length; i++) {
             x.paste(0, i, 1, 2, 1);
-            DUE.due(of + ", number " + i, x.gaps(1), gaps[due[i]]);
+            DUE.due(of + ", number " + i, x.gaps(1), gaps[(int) due[i]]);
         }
     }
 

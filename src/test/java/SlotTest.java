@@ -58,16 +58,9 @@ public final class SlotTest {
         }
     }
 
-    private static void lay(LongBoats x, int slot, int width, int... numbers) {
-        x.row(slot, width, numbers.length);
-        for (int i = 0; i < numbers.length; i++) {
-            x.write(slot, i, numbers[i]);
-        }
-    }
-
     private static void pastes() {
         LongBoats x = Due.told(Harbours.THREE);
-        lay(x, 0, 1, 0, 1, 3);
+        Due.lay(x, 0, 1, 0, 1, 3);
         DUE.due("paste slot 4", x.paste(4, 0, 0, 0, 1), -2);
         DUE.due("paste to -1", x.paste(0, 0, -1, 0, 1), -2);
         DUE.due("paste to nothing", x.paste(0, 0, 1, 0, 1), -6);
@@ -89,11 +82,11 @@ public final class SlotTest {
         DUE.due("pasted", x.gaps(1), 28);
         DUE.due("its own stays", x.gaps(0), 28);
         // Over itself, upwards and downwards: what is put is what was there.
-        lay(x, 2, 0, 1, 0, 2, 0, 0, 0);
+        Due.lay(x, 2, 0, 1, 0, 2, 0, 0, 0);
         DUE.due("paste upwards", x.paste(2, 0, 2, 2, 3), 0);
         // 1 0 1 | 0 2 0: WIDE the one who leans 4 falls, of the others nobody does.
         DUE.due("read ahead", x.gaps(2), (1 << 21) - 32);
-        lay(x, 2, 0, 2, 2, 1, 0, 1, 0, 1, 3, 0);
+        Due.lay(x, 2, 0, 2, 2, 1, 0, 1, 0, 1, 3, 0);
         DUE.due("paste downwards", x.paste(2, 2, 2, 0, 3), 0);
         // 1 0 1 | 0 1 0 | 1 3 0
         DUE.due("a MAN that is none", x.gaps(2), -2);

@@ -65,6 +65,14 @@ final class Due {
         return x;
     }
 
+    /** A SLOT has a row of these numbers. */
+    static void lay(LongBoats x, int slot, int width, long... numbers) {
+        x.row(slot, width, numbers.length);
+        for (int i = 0; i < numbers.length; i++) {
+            x.write(slot, i, numbers[i]);
+        }
+    }
+
     /** Tells a text to both: how many calls that took. */
     int tellBoth(String run, LongBoats x, Model y, String text) {
         x.end(0);
